@@ -1227,10 +1227,12 @@ public final class PactYears {
             kinds[rule] = kind;
             worths[rule] = size;
             rules = rule + 1;
-            if (kind != 'x') {
+            if (kind == 'x') {
+                emit(1);
+            } else {
                 readSum(0);
-                emit(CLOSE);
             }
+            emit(CLOSE);
             tests[rule] = size;
             expect('(');
             readSome(1);
@@ -1378,23 +1380,14 @@ public final class PactYears {
             values[7] = ahead.sins;
         }
 
-        boolean balks() {
-            return firstRule('x') >= 0;
-        }
-
-        /** The E of the first RULE of this kind whose C holds, within 0 and the most. */
+        /** The E of the first RULE of this kind whose C holds, within 0 and the most; of an x it is 1. */
         int worth(int kind, int most) {
-            int rule = firstRule(kind);
-            return rule < 0 ? 0 : Math.max(0, Math.min(most, run(worths[rule])));
-        }
-
-        private int firstRule(int kind) {
             for (int rule = 0; rule < rules && rule < MOST_RULES; rule++) {
                 if (kinds[rule] == kind && run(tests[rule]) != 0) {
-                    return rule;
+                    return Math.max(0, Math.min(most, run(worths[rule])));
                 }
             }
-            return NONE;
+            return 0;
         }
 
         /** Reckons an E or a C from its first code on; 0, too, if that is REFUSED. */
@@ -1441,16 +1434,12 @@ public final class PactYears {
                 case '=':
                     return left == right ? 1 : 0;
                 default:
-                    return divided(left, sign, right);
+                    if (right == 0) {
+                        refused = true;
+                        return 0;
+                    }
+                    return sign == '/' ? left / right : left % right;
             }
-        }
-
-        private int divided(int left, int sign, int right) {
-            if (right == 0) {
-                refused = true;
-                return 0;
-            }
-            return sign == '/' ? left / right : left % right;
         }
     }
 
@@ -1500,7 +1489,7 @@ public final class PactYears {
             }
             int facts = ahead.state ^ nearest;
             law.look(k, Integer.bitCount(facts), prices.of(facts), ahead);
-            if (law.balks()) {
+            if (law.worth('x', 1) != 0) {
                 answer = BALKS;
                 return;
             }
