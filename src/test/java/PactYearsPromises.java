@@ -471,6 +471,14 @@ public final class PactYearsPromises {
         due("fits(5)", x.fits(5), 1);
         due("no such what", x.fits(6), -1);
         due("no such what", x.fits(-1), -1);
+        clause(x, 2, "!(a|b|c|d|e|f|g|h|i|j)");
+        clause(x, 0, "1");
+        clause(x, 1, "1");
+        due("one FITS: the first and the last", x.fits(0) * 100 + x.fits(1) + x.fits(2), 100);
+        due("FACTS so in none", x.fits(4), 1023);
+        clause(x, 2, "a&b&c&d&e&f&g&h&i&j");
+        due("one FITS: the first", x.fits(1), 1023);
+        due("FACTS so in all", x.fits(3), 1023);
         clause(x, 2, "0");
         int[] none = {0, -2, -2, -2, -2, 0};
         for (int what = 0; what <= 5; what++) {
@@ -493,12 +501,15 @@ public final class PactYearsPromises {
         due("RISING", x.wishIs(2, 4), 0);
         due("ON j", x.wishIs(3, 3), 512);
         due("RISING j", x.wishIs(3, 4), 512);
+        wish(x, 4, "!(b|g|h|i|j)");
+        due("ON b g h i j", x.wishIs(4, 3), 962);
+        due("RISING by none", x.wishIs(4, 4), 0);
         x.wished(0);
         due("now", x.wishIs(0, 1), 1);
         due("spent", x.wishIs(0, 2), 1);
         due("no such what", x.wishIs(0, 5), -1);
         due("no such what", x.wishIs(0, -1), -1);
-        due("no such WISH", x.wishIs(4, 0), -1);
+        due("no such WISH", x.wishIs(5, 0), -1);
         due("no such WISH", x.wishIs(-1, 0), -1);
     }
 
@@ -517,9 +528,13 @@ public final class PactYearsPromises {
         clause(x, 6, "!b");
         due("one", x.why(0, 0), 1);
         due("one", x.why(0, 1), 64);
+        wish(x, 3, "!(g|h|i|j)&!b");
+        due("by few STATES", x.why(3, 0), -2);
+        clause(x, 4, "b|g|h|i|j");
+        due("by few STATES", x.why(3, 1), 16);
         due("no such what", x.why(0, 2), -1);
         due("no such what", x.why(0, -1), -1);
-        due("no such WISH", x.why(3, 0), -1);
+        due("no such WISH", x.why(4, 0), -1);
         due("no such WISH", x.why(8, 0), -1);
     }
 
@@ -684,9 +699,12 @@ public final class PactYearsPromises {
         due("h: none", x.like(2, 7), 0);
         due("all others", x.like(3, 9), 511);
         due("odd ones", x.like(4, 6), 3);
+        wish(x, 5, "!(g|h|i|j)&a&!b");
+        due("by few STATES", x.like(5, 0), 0);
+        due("by few STATES", x.like(5, 6), 898);
         due("no such FACT", x.like(0, 10), -1);
         due("no such FACT", x.like(0, -1), -1);
-        due("no such WISH", x.like(5, 0), -1);
+        due("no such WISH", x.like(6, 0), -1);
         due("no such WISH", x.like(8, 0), -1);
     }
 
