@@ -380,7 +380,7 @@ public final class PactYears {
     }
 
     public int asked(int facts, int so, int what) {
-        if (!areFacts(facts) || what < 0 || what > 4) {
+        if (!areFacts(facts) || !areFacts(so) || what < 0 || what > 4) {
             return NONE;
         }
         gatherAsked(facts, so);
@@ -397,7 +397,7 @@ public final class PactYears {
     }
 
     public int questions(int facts, int so, int n) {
-        if (!areFacts(facts) || n < 0 || n > MOST_QUESTIONS) {
+        if (!areFacts(facts) || !areFacts(so) || n < 0 || n > MOST_QUESTIONS) {
             return NONE;
         }
         gatherAsked(facts, so);

@@ -809,6 +809,12 @@ public final class PactYearsPromises {
         due("no such what", x.asked(0, 0, -1), -1);
         due("no such FACTS", x.asked(1024, 0, 0), -1);
         due("no such FACTS", x.asked(-1, 0, 0), -1);
+        for (int what = 0; what <= 4; what++) {
+            due("what is so must be FACTS", x.asked(1, -1, what), -1);
+            due("what is so must be FACTS", x.asked(1, 1024, what), -1);
+            due("what is so must be FACTS", x.asked(0, 1025, what), -1);
+            due("what is so must be FACTS", x.asked(1023, Integer.MIN_VALUE, what), -1);
+        }
     }
 
     private static void p26Questions() {
@@ -830,6 +836,13 @@ public final class PactYearsPromises {
         due("no such n", x.questions(0, 0, -1), -1);
         due("no such FACTS", x.questions(1024, 0, 1), -1);
         due("no such FACTS", x.questions(-1, 0, 1), -1);
+        due("others are not looked at", x.questions(1016, 7, 1), 3);
+        for (int n = 0; n <= 10; n++) {
+            due("what is so must be FACTS", x.questions(0, -1, n), -1);
+            due("what is so must be FACTS", x.questions(1, 1024, n), -1);
+            due("what is so must be FACTS", x.questions(0, 1025, n), -1);
+            due("what is so must be FACTS", x.questions(1023, Integer.MIN_VALUE, n), -1);
+        }
         // with either answer of b half is left, but then c tells only where b is not so
         clause(x, 0, "!a&!d&!e&!f&!g&!h&!i&!j&(!b|c&!b|c)");
         due("three", x.questions(0, 0, 0), 3);

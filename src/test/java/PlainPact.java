@@ -593,7 +593,7 @@ final class PlainPact {
     }
 
     int asked(int facts, int so, int what) {
-        if (!in(facts, 0, 1023) || !in(what, 0, 4)) {
+        if (!in(facts, 0, 1023) || !in(so, 0, 1023) || !in(what, 0, 4)) {
             return -1;
         }
         List<Integer> states = asked(facts, so);
@@ -612,7 +612,7 @@ final class PlainPact {
     }
 
     int questions(int facts, int so, int n) {
-        if (!in(facts, 0, 1023) || !in(n, 0, 10)) {
+        if (!in(facts, 0, 1023) || !in(so, 0, 1023) || !in(n, 0, 10)) {
             return -1;
         }
         List<Integer> states = asked(facts, so);
