@@ -441,6 +441,11 @@ public final class PactYearsPromises {
         due("no such what", x.tried(0, -1), -1);
         due("no such WISH", x.tried(4, 0), -1);
         due("no such WISH", x.tried(8, 0), -1);
+        for (int i = 0; i < 84; i++) {
+            x.summer(360);
+        }
+        due("SINS to their bound", x.count(2), 9999);
+        due("what it brings, whatever SINS are", x.tried(0, 4), 2);
         x.wished(1);
         due("FREE", x.tried(0, 0), -5);
         due("THE STATE as it is", x.tried(0, 1), 4);
@@ -597,6 +602,8 @@ public final class PactYearsPromises {
         x.days(8617 - x.count(1));
         due("FETCHED between two", x.inOrder(3, 20), -2);
         due("FETCHED by the last", x.inOrder(1, 20), 23);
+        x.days(20);
+        due("FETCHED ahead of the last one's DAYS", x.inOrder(1, 20), 23);
         PactYears y = withWishes("a", "!a");
         law(y, "d[1-w]*90+1(s=0);d2(1=1)");
         due("by what stands ahead of each", y.inOrder(3, 20), 92);
