@@ -36,6 +36,8 @@ public final class PactYears {
     private static final int ALL_ANSWER = 20;
     private static final int PRICES_ANSWER = 10;
     private static final int FIRST_PRICE_COUNT = 20;
+    /** More than all DAYS, PRICES and what is reckoned of them can come to. */
+    private static final int FAR = 1000000000;
 
     private static final int NO_WAY = -2;
     private static final int BALKS = -3;
@@ -954,7 +956,7 @@ public final class PactYears {
 
         /** The STATE of both tables that is nearest: by PRICES, changes, its number; or NONE. */
         int nearest(long[] one, long[] two, int from) {
-            int best = Integer.MAX_VALUE;
+            int best = FAR;
             for (int far = 0; far < WORDS; far++) {
                 int w = (far ^ from >> Tables.INSIDE) & WORDS - 1;
                 long left = one[w] & two[w];
@@ -970,7 +972,7 @@ public final class PactYears {
                     }
                 }
             }
-            return best == Integer.MAX_VALUE ? NONE : best % STATES;
+            return best == FAR ? NONE : best % STATES;
         }
     }
 
@@ -1510,10 +1512,10 @@ public final class PactYears {
 
         /** Whether these WISHES can all be granted: their DAYS and the row are told beside. */
         boolean order(Standing from, int bits) {
-            fewestDays = Integer.MAX_VALUE;
+            fewestDays = FAR;
             trials[0].take(from);
             orderOn(bits, 0, 0);
-            return fewestDays != Integer.MAX_VALUE;
+            return fewestDays != FAR;
         }
 
         private void orderOn(int left, int depth, int daysAhead) {
@@ -1660,7 +1662,7 @@ public final class PactYears {
         /** The lowest of those not seen by which the rest costs least. */
         private int nextOf(int seen, int state, int places, Prices prices) {
             int best = 0;
-            int least = Integer.MAX_VALUE;
+            int least = FAR;
             for (int next = 0; next < places && next < MOST_DEAD; next++) {
                 if ((seen >> next & 1) == 0) {
                     int paid = throughNext(seen, state, next, prices);

@@ -60,7 +60,7 @@ public final class LanguageRules {
         for (String word : refused) {
             must(!Pattern.compile(word).matcher(code).find(), "the source has " + word);
         }
-        Matcher library = Pattern.compile("\\b([A-Z][a-z]\\w*)\\.([a-z]\\w*)").matcher(code);
+        Matcher library = Pattern.compile("\\b([A-Z][a-z]\\w*)\\.(\\w+)").matcher(code);
         Set<String> known = new HashSet<>(Arrays.asList("Integer.bitCount", "Long.bitCount", "Math.max", "Math.min",
                 "System.arraycopy"));
         Set<String> own = new HashSet<>(Arrays.asList("Tables"));
