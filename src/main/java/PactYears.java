@@ -938,9 +938,9 @@ public final class PactYears {
         }
 
         private void sortIn(int place) {
-            int bits = cheapestFirst[place];
-            int to = place;
-            for (; to > 0 && low[cheapestFirst[to - 1]] > low[bits]; to--) {
+            int to = place & LOW - 1;
+            int bits = cheapestFirst[to] & LOW - 1;
+            for (; to > 0 && low[cheapestFirst[to - 1] & LOW - 1] > low[bits]; to--) {
                 cheapestFirst[to] = cheapestFirst[to - 1];
             }
             cheapestFirst[to] = bits;
@@ -961,7 +961,7 @@ public final class PactYears {
                 int w = (far ^ from >> Tables.INSIDE) & WORDS - 1;
                 long left = one[w] & two[w];
                 for (int turn = 0; turn < LOW && left != 0; turn++) {
-                    int near = cheapestFirst[turn];
+                    int near = cheapestFirst[turn] & LOW - 1;
                     int key = (high[far] + low[near]) * STATES;
                     if (key > best) {
                         break;
@@ -1207,24 +1207,26 @@ public final class PactYears {
             begin(n);
             rules = 0;
             size = 0;
-            for (int rule = 0; rule <= MOST_RULES && fault == 0; rule++) {
-                int kind = here();
-                if (kind != 'd' && kind != 'g' && kind != 'x') {
-                    fail(WRONG);
-                } else if (rule == MOST_RULES) {
-                    fail(TOO_MANY);
-                } else {
-                    readRule(rule, kind);
-                    if (fault == 0 && here() == END) {
-                        return rules;
-                    }
-                    expect(';');
+            for (int turn = 0; turn <= MOST_RULES && fault == 0; turn++) {
+                readRule(rules);
+                if (fault == 0 && here() == END) {
+                    return rules;
                 }
+                expect(';');
             }
             return fault;
         }
 
-        private void readRule(int rule, int kind) {
+        private void readRule(int rule) {
+            int kind = here();
+            if (kind != 'd' && kind != 'g' && kind != 'x') {
+                fail(WRONG);
+                return;
+            }
+            if (rule < 0 || rule >= MOST_RULES) {
+                fail(TOO_MANY);
+                return;
+            }
             at++;
             kinds[rule] = kind;
             worths[rule] = size;
@@ -1548,7 +1550,10 @@ public final class PactYears {
         }
 
         private boolean reachOn(int goal, int depth, int places) {
-            if (depth >= places || depth >= MOST_ORDERED) {
+            if (depth < 0 || depth >= MOST_ORDERED) {
+                return false;
+            }
+            if (depth >= places) {
                 return Tables.has(wishes.tables[goal & BOOK_SIZE - 1], trials[depth].state);
             }
             for (int k = 0; k < BOOK_SIZE; k++) {
@@ -1597,10 +1602,10 @@ public final class PactYears {
         }
 
         private void decide(int fact, int told) {
-            if (Tables.isEmpty(levels[fact]) || !mayBeBetter(told)) {
+            if (fact < 0 || fact > FACTS || Tables.isEmpty(levels[fact]) || !mayBeBetter(told)) {
                 return;
             }
-            if (fact >= FACTS) {
+            if (fact == FACTS) {
                 facts = told;
                 so = Tables.first(levels[fact]);
                 return;
@@ -1625,9 +1630,10 @@ public final class PactYears {
 
     /** THE DEAD: for each set of STATES seen, and the last of them, what the rest costs at least. */
     private static final class Tour {
+        private static final int REST = (1 << MOST_DEAD) * MOST_DEAD;
         final int[] states = new int[MOST_DEAD];
         final int[] row = new int[MOST_DEAD];
-        private final int[] rest = new int[(1 << MOST_DEAD) * MOST_DEAD];
+        private final int[] rest = new int[REST];
 
         /** The fewest PRICES of all; the least row for them is told beside. */
         int find(int from, int n, Prices prices) {
@@ -1649,8 +1655,8 @@ public final class PactYears {
             int seen = 0;
             int state = from;
             int paid = 0;
-            for (int place = 0; place < places; place++) {
-                int next = nextOf(seen, state, places, prices);
+            for (int place = 0; place < places && place < MOST_DEAD; place++) {
+                int next = nextOf(seen, state, places, prices) & MOST_DEAD - 1;
                 row[place] = next;
                 paid += prices.of(state ^ states[next]);
                 state = states[next];
@@ -1676,7 +1682,8 @@ public final class PactYears {
         }
 
         private int throughNext(int seen, int state, int next, Prices prices) {
-            return prices.of(state ^ states[next]) + rest[(seen | 1 << next) * MOST_DEAD + next];
+            int nowSeen = (seen | 1 << next) * MOST_DEAD + next & REST - 1;
+            return prices.of(state ^ states[next & MOST_DEAD - 1]) + rest[nowSeen];
         }
     }
 }
